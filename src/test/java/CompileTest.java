@@ -25,6 +25,7 @@ public final class CompileTest {
         calls();
         chainsOfEquivalence();
         chainsThroughBlocks();
+        everyPairOfCells();
         check.end();
     }
 
@@ -194,11 +195,17 @@ public final class CompileTest {
         f.common(0, 0, 1);
         f.common(0, 3, 1);
         answers("one name in two blocks", f, FortranStatic.C_CONFLICT);
-        f = fresh();
-        f.common(0, 1, 1);
-        f.common(0, 2, 2);
-        f.equivalence(0, 10100, 10200);
-        answers("two blocks joined by an equivalence", f, FortranStatic.C_CONFLICT);
+        for (int one = 0; one < 4; one++) {
+            for (int two = 0; two < 4; two++) {
+                if (one != two) {
+                    f = fresh();
+                    f.common(0, one, 1);
+                    f.common(0, two, 2);
+                    f.equivalence(0, 10100, 10200);
+                    answers("blocks " + one + " and " + two + " joined by an equivalence", f, FortranStatic.C_CONFLICT);
+                }
+            }
+        }
         f = fresh();
         f.common(0, 0, 1);
         f.common(1, 0, 1);
@@ -246,13 +253,10 @@ public final class CompileTest {
     private static void backward() {
         for (int i = 1; i <= 4; i++) {
             for (int j = 1; j <= 4; j++) {
-                for (int block = 0; block < 4; block++) {
-                    FortranStatic f = fresh();
-                    f.dimension(2, 5, 4);
-                    f.dimension(2, 6, 4);
-                    f.equivalence(2, 10500 + i, 10600 + j);
-                    f.common(2, block, 5);
-                    answers("n(" + i + ") = n'(" + j + ")", f, j > i ? FortranStatic.C_BACKWARD : FortranStatic.C_OK);
+                for (int unit = 0; unit < 4; unit++) {
+                    backwardByOne(unit, 3 - unit, 0, 7, i, j);
+                    backwardByOne(unit, unit, 7, 0, i, j);
+                    backwardByOne(unit, 0, 5, 6, i, j);
                 }
             }
         }
@@ -275,6 +279,25 @@ public final class CompileTest {
         f.common(0, 0, 2);
         f.equivalence(0, 10200, 10305);
         answers("one before the start of the block", f, FortranStatic.C_BACKWARD);
+    }
+
+    /** One name of length 4 is in the block, another is tied to it by both ways of saying so. */
+    private static void backwardByOne(int unit, int block, int name, int other, int i, int j) {
+        int inBlock = 10000 + 100 * name + i;
+        int tied = 10000 + 100 * other + j;
+        for (int turned = 0; turned < 2; turned++) {
+            FortranStatic f = fresh();
+            f.dimension(unit, name, 4);
+            f.dimension(unit, other, 4);
+            f.equivalence(unit, turned == 0 ? inBlock : tied, turned == 0 ? tied : inBlock);
+            f.common(unit, block, name);
+            String what = "unit " + unit + ", " + inBlock + " = " + tied;
+            answers(what, f, j > i ? FortranStatic.C_BACKWARD : FortranStatic.C_OK);
+            for (int b = 0; b < 4; b++) {
+                int extent = j > i ? -1 : b == block ? 4 + i - j : 0;
+                check.due(what + ": extent of " + b, f.query(FortranStatic.Q_EXTENT, b, 0), extent);
+            }
+        }
     }
 
     private static void repeatedLabels() {
@@ -403,6 +426,33 @@ public final class CompileTest {
         }
         for (int block = 0; block < 4; block++) {
             check.due("extent", f.query(FortranStatic.Q_EXTENT, block, 0), 0);
+        }
+    }
+
+    /** Tied names beside free ones of full length: no cell may be taken for one of a free name. */
+    private static void everyPairOfCells() {
+        FortranStatic f = fresh();
+        // Of unit 1: names 1 and 4 start at 100, 2 at 99, 6 at 115, 7 at 87; 0, 3 and 5 are free.
+        int[] lengths = {16, 1, 2, 16, 16, 16, 16, 14};
+        int[] starts = {0, 100, 99, 1000, 100, 2000, 115, 87};
+        for (int name = 0; name < 8; name++) {
+            f.dimension(1, name, lengths[name]);
+        }
+        f.equivalence(1, 10101, 10202);
+        f.equivalence(1, 10416, 10601);
+        f.equivalence(1, 10714, 10401);
+        f.equivalence(1, 10200, 10713);
+        answers("free names between tied ones", f, FortranStatic.C_OK);
+        for (int n = 0; n < 8; n++) {
+            for (int i = 1; i <= lengths[n]; i++) {
+                for (int m = 0; m < 8; m++) {
+                    for (int j = 1; j <= lengths[m]; j++) {
+                        int a = 10000 + 100 * n + i;
+                        int b = 10000 + 100 * m + j;
+                        check.due(a + " and " + b, f.aliased(1, a, 1, b), starts[n] + i == starts[m] + j);
+                    }
+                }
+            }
         }
     }
 

@@ -138,6 +138,22 @@ public final class RunTest {
         check.due("a short run: value", f.value(0, 10100), 0);
         check.due("a short run: steps", f.query(FortranStatic.Q_STEPS, 0, 0), 2);
 
+        // The first run is cut off inside the loop, whose counter and step the second must not see.
+        for (int cut = 4; cut < 8; cut++) {
+            f = fresh();
+            check.add(f, 0, 3, CONTINUE, 0);
+            check.add(f, 0, 0, IF, 0, 10100, 0, 5, 5, 4);
+            check.add(f, 0, 4, DO, 0, 5, 10000, 1, 9, 2);
+            check.add(f, 0, 5, PRINT, 0, 10000);
+            check.add(f, 0, 0, PRINT, 0, 10000);
+            check.add(f, 0, 0, ASSIGN, ADD, 10100, 10100, 1);
+            check.add(f, 0, 0, IF, 0, 10100, 2, 3, 6, 6);
+            check.add(f, 0, 6, STOP, 0);
+            check.runs("cut off", f, cut + 6, FortranStatic.RUN_STEPS, cut + 6);
+            check.runs("after the cut", f, 100, DONE, 6 + 11 + 1);
+            check.printed("after the cut", f, 0, 0, 1, 3, 5, 7, 9, 11);
+        }
+
         f = fresh();
         check.add(f, 0, 0, CALL, 1);
         check.add(f, 1, 1, CONTINUE, 0);
