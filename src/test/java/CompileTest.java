@@ -26,6 +26,7 @@ public final class CompileTest {
         chainsOfEquivalence();
         chainsThroughBlocks();
         everyPairOfCells();
+        fullPrograms();
         check.end();
     }
 
@@ -159,6 +160,12 @@ public final class CompileTest {
         f.dimension(0, 0, 2);
         check.add(f, 1, 0, PRINT, 0, 10002);
         answers("the length of another unit", f, FortranStatic.C_INDEX);
+        f = fresh();
+        f.dimension(1, 0, 5);
+        check.add(f, 0, 1, IF, 0, 1, 1, 1, 1, 1);
+        check.add(f, 1, 0, ASSIGN, 0, 10005, 10005, 10005);
+        check.add(f, 0, 0, PRINT, 0, 10000);
+        answers("the lengths of two units", f, FortranStatic.C_OK);
         f = fresh();
         check.add(f, 0, 0, PRINT, 0, 20107);
         check.add(f, 0, 0, PRINT, 0, 9999);
@@ -454,6 +461,42 @@ public final class CompileTest {
                 }
             }
         }
+    }
+
+    /** Every table is filled to its end, with the widest statements, and with all of them used. */
+    private static void fullPrograms() {
+        for (int last = 0; last < 4; last++) {
+            FortranStatic f = new FortranStatic(64, 32);
+            for (int unit = 0; unit < 4; unit++) {
+                for (int name = 0; name < 8; name++) {
+                    f.dimension(unit, name, 16);
+                    check.due("common", f.common(unit, name / 2, name), true);
+                }
+            }
+            for (int i = 0; i < 16; i++) {
+                check.due("equivalence", f.equivalence(last, 10000 + 100 * (i % 8) + i, 10000 + 100 * (i % 8) + i), true);
+            }
+            for (int i = 0; i < 63; i++) {
+                check.add(f, 0, i + 1, IF, 0, 10716, 10716, 1, i + 2, 1);
+            }
+            int label = last == 0 ? 64 : 63;
+            if (last == 0) {
+                check.add(f, last, label, IF, 0, 10716, 10716, 1, 1, 1);
+                answers("64 statements", f, FortranStatic.C_OK);
+                check.due("run", f.run(5000), FortranStatic.RUN_STEPS);
+            } else {
+                check.add(f, last, label, PRINT, 0, 10716);
+                answers("a last jump to no label of the unit", f, FortranStatic.C_LABEL);
+            }
+        }
+        FortranStatic f = new FortranStatic(64, 32);
+        for (int i = 0; i < 64; i++) {
+            check.add(f, 0, i + 1, i % 2 == 0 ? PRINT : CONTINUE, 0, i % 2 == 0 ? new int[] {i} : new int[0]);
+        }
+        answers("64 plain statements", f, FortranStatic.C_OK);
+        check.due("run to the end", f.run(64), FortranStatic.RUN_DONE);
+        check.due("all printed", f.query(FortranStatic.Q_OUTPUTS, 0, 0), 32);
+        check.due("the last printed", f.output(31), 62);
     }
 
     private static void chainsThroughBlocks() {
