@@ -30,8 +30,8 @@ public final class FaceTest {
         Set<String> methods = new TreeSet<>();
         for (Method method : c.getDeclaredMethods()) {
             if (!Modifier.isPrivate(method.getModifiers())) {
-                check.due(method + " is just public", method.getModifiers(), Modifier.PUBLIC);
-                methods.add(method.toString().replace("public ", "").replace("FortranStatic.", ""));
+                check.due(method + " is just public", method.getModifiers() & ~Modifier.FINAL, Modifier.PUBLIC);
+                methods.add(method.toString().replace("public ", "").replace("final ", "").replace("FortranStatic.", ""));
             }
         }
         same(check, "methods", methods, METHODS);
