@@ -277,6 +277,12 @@ public final class BoundsOfCompileTest extends Bounds {
         f.dimension(0, 3, 9);
         add(f, 1, 0, PRINT, 0, fixed(3, 2));
         compiles("the length is that of the unit", f, TOO_FAR);
+        // A statement with all five operands is followed by one of another unit, with longer names.
+        FortranStatic h = fresh();
+        h.dimension(1, 3, 9);
+        add(h, 0, 1, IF, 0, fixed(3, 1), 1, 1, 1, 1);
+        add(h, 1, 0, PRINT, 0, fixed(3, 9));
+        compiles("each code is judged in its own unit", h, OK);
         // Neither the index of an indexed code nor a constant is an element number.
         FortranStatic g = fresh();
         add(g, 0, 0, PRINT, 0, indexed(0, 7));
@@ -377,6 +383,16 @@ public final class BoundsOfCompileTest extends Bounds {
                 f.equivalence(2, fixed(6, 3), fixed(7, j));
                 compiles("n7(" + j + ") at the third cell of the block", f, j > 3 ? BACKWARD : OK);
             }
+            // Each name of each unit may be the one that goes too far.
+            for (int slot = 0; slot < 32; slot++) {
+                int unit = slot / 8;
+                int name = slot % 8;
+                FortranStatic f = fresh();
+                f.dimension(unit, name, 2);
+                f.common(unit, block, (name + 1) % 8);
+                f.equivalence(unit, fixed((name + 1) % 8, 1), fixed(name, 2));
+                compiles("name " + name + " of unit " + unit + " at -1 of block " + block, f, BACKWARD);
+            }
             // A chain: name 5 is tied to name 7, which is tied to the block; only name 5 goes too far.
             for (int j = 1; j <= 3; j++) {
                 FortranStatic f = fresh();
@@ -412,6 +428,10 @@ public final class BoundsOfCompileTest extends Bounds {
                 add(g, unit, label, CONTINUE, 0);
             }
             compiles("label " + label + " in every unit", g, OK);
+            FortranStatic h = fresh();
+            add(h, 3, label, CONTINUE, 0);
+            add(h, 3, label, CONTINUE, 0);
+            compiles("label " + label + " twice in a row", h, label == 0 ? OK : LABEL);
         }
         // The first and the last of 64 statements.
         FortranStatic f = fresh();
@@ -457,6 +477,12 @@ public final class BoundsOfCompileTest extends Bounds {
         add(f, 1, 5, GOTO, 1, 1, 5);
         add(f, 0, 0, GOTO, 1, 1, 5);
         compiles("a label of another unit", f, LABEL);
+        // No room is left for the label that is missing.
+        FortranStatic full = fresh();
+        for (int i = 0; i < 64; i++) {
+            add(full, 0, i + 1, GOTO, 1, 1, i + 2);
+        }
+        compiles("the last of 64 goes to a label that is none", full, LABEL);
         // The value place before the labels is no label.
         FortranStatic g = fresh();
         add(g, 0, 5, GOTO, 1, 77, 5);

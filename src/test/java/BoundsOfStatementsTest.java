@@ -286,7 +286,7 @@ public final class BoundsOfStatementsTest extends Bounds {
             }
             due("statements", statements(f), capacity);
             due("the last operand", f.query(FortranStatic.Q_STMT, capacity - 1, 6), capacity - 1);
-            compiles("full", f, OK);
+            runs("full", f, 100, DONE, (capacity + 3) / 4);
         }
         // The last one that fits may still be given its operands.
         FortranStatic f = new FortranStatic(8, 4);
